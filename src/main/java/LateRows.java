@@ -798,6 +798,10 @@ public final class LateRows {
         final byte[] marks;
         final long[] numbers;
         final byte[] kept;
+        // PARTS that were ever asked to tell: untelling and copying look at no others.
+        private final boolean[] met;
+        private final int[] meetings;
+        private int meetingsMade = 0;
 
         Told(int parts) {
             places = new int[parts];
@@ -809,50 +813,64 @@ public final class LateRows {
             marks = new byte[parts * PLACES];
             numbers = new long[parts * PLACES];
             kept = new byte[parts * PLACES];
+            met = new boolean[parts];
+            meetings = new int[parts];
             for (int p = 0; p < parts; p++) goings[p] = THERE;
         }
 
+        void meet(int p) {
+            if (met[p] || meetingsMade >= meetings.length) return;
+            met[p] = true;
+            meetings[meetingsMade] = p;
+            meetingsMade++;
+        }
+
         void untell() {
-            for (int p = 0; p < places.length; p++) {
-                int first = p * PLACES;
-                for (int i = 0; i < places[p]; i++) marks[first + i] = UNTOLD;
-                places[p] = 0;
-                heads[p] = 0;
-                goings[p] = THERE;
-                telling[p] = false;
-                nexts[p] = 0;
-                seconds[p] = 0;
-            }
+            for (int m = 0; m < meetingsMade; m++) untellPart(meetings[m]);
+            meetingsMade = 0;
+        }
+
+        private void untellPart(int p) {
+            int first = p * PLACES;
+            for (int i = 0; i < places[p]; i++) marks[first + i] = UNTOLD;
+            places[p] = 0;
+            heads[p] = 0;
+            goings[p] = THERE;
+            telling[p] = false;
+            nexts[p] = 0;
+            seconds[p] = 0;
+            met[p] = false;
         }
 
         /** All that is told in another one of the same size. */
         void takeAll(Told other) {
             untell();
-            for (int p = 0; p < places.length && p < other.places.length; p++) {
-                int many = other.places[p];
-                int first = p * PLACES;
-                places[p] = many;
-                heads[p] = other.heads[p];
-                goings[p] = other.goings[p];
-                nexts[p] = other.nexts[p];
-                seconds[p] = other.seconds[p];
-                if (many > 0) {
-                    System.arraycopy(other.marks, first, marks, first, many);
-                    System.arraycopy(other.numbers, first, numbers, first, many);
-                    System.arraycopy(other.kept, first, kept, first, many);
-                }
-            }
+            for (int m = 0; m < other.meetingsMade; m++) takePart(other, other.meetings[m]);
+        }
+
+        private void takePart(Told other, int p) {
+            int many = other.places[p];
+            int first = p * PLACES;
+            meet(p);
+            places[p] = many;
+            heads[p] = other.heads[p];
+            goings[p] = other.goings[p];
+            nexts[p] = other.nexts[p];
+            seconds[p] = other.seconds[p];
+            System.arraycopy(other.marks, first, marks, first, many);
+            System.arraycopy(other.numbers, first, numbers, first, many);
+            System.arraycopy(other.kept, first, kept, first, many);
         }
 
         int allPlaces() {
             int many = 0;
-            for (int p = 0; p < places.length; p++) many += places[p];
+            for (int m = 0; m < meetingsMade; m++) many += places[meetings[m]];
             return many;
         }
 
         int allHeads() {
             int many = 0;
-            for (int p = 0; p < heads.length; p++) many += heads[p];
+            for (int m = 0; m < meetingsMade; m++) many += heads[meetings[m]];
             return many;
         }
     }
@@ -896,6 +914,7 @@ public final class LateRows {
             for (int n = told.places[p]; n <= i && told.goings[p] == THERE; n++) {
                 if (told.telling[p]) return RING;
                 if (!beginsRun()) return DEAR;
+                told.meet(p);
                 told.telling[p] = true;
                 int answer;
                 if (seeks(p)) answer = seekPlace(p, n);

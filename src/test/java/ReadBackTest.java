@@ -49,7 +49,7 @@ public final class ReadBackTest {
         LateRows x = Checks.with("from 1 1", "list 1,2,3", "map + 0 a", "from 1 2", "h", "map / 0 a", "cons 1 cons 2 f");
         x.film(0, 0, 3);
         x.forget();
-        C.due("22 four tell 1 2 3", x.tells(0, 0, 0), 1 + 2 + 4);
+        C.due("22 three tell 1 2 3", x.tells(0, 0, 0), 1 + 2 + 4);
         C.due("22 in thought", x.count(2) + x.count(3), 0);
         C.due("22 not counted", x.count(4), 6);
         x.film(0, 0, 4);
