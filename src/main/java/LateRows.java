@@ -1150,14 +1150,10 @@ public final class LateRows {
                 int two = outcome(other, i);
                 if (two == DEAR) return DEAR;
                 if (one != two || one == THERE && number != value) return i;
-                if (isOver(stream, i) && isOver(other, i)) return NONE;
+                // A HEAD's FAULT ends it, too: behind a PART that is over for good nothing could differ anyway.
+                if (one != THERE) return NONE;
             }
             return NONE;
-        }
-
-        /** Whether a STREAM has ENDED or FAILED at a PLACE that was asked; a HEAD's FAULT doesn't end it. */
-        private boolean isOver(int stream, int i) {
-            return isThere(stream, i) != THERE;
         }
 
         int rising(int stream) {

@@ -588,14 +588,13 @@ final class Model {
         }
     }
 
-    /** An OUTCOME as a text, so that two can be compared; marked where the row itself is over. */
+    /** An OUTCOME as a text, so that two can be compared. */
     private String said(int stream, int i) {
-        boolean there = false;
         try {
-            there = place(roots[stream], i);
-            return there ? "number " + head(roots[stream], i) : "over: ended";
+            Long number = outcome(stream, i);
+            return number == null ? "ended" : "number " + number;
         } catch (Fault f) {
-            return (there ? "" : "over: ") + "fault " + f.n;
+            return "fault " + f.n;
         }
     }
 
@@ -607,8 +606,8 @@ final class Model {
             for (int i = 0; i < n; i++) {
                 String a = said(stream, i);
                 String b = said(other, i);
-                if (!a.replace("over: ", "").equals(b.replace("over: ", ""))) return i;
-                if (a.startsWith("over") && b.startsWith("over")) return -1;
+                if (!a.equals(b)) return i;
+                if (!a.startsWith("number")) return -1;
             }
             return -1;
         } catch (Dear d) {

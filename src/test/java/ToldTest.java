@@ -368,7 +368,7 @@ public final class ToldTest {
         C.due("19 a fault and a number", x.differ(3, 0, 1), 0);
         C.due("19 both failed", x.differ(3, 3, 64), -1);
         C.due("19 faults that aren't alike", x.differ(3, 4, 1), 0);
-        C.due("19 behind heads with like faults", x.differ(4, 5, 64), 2);
+        C.due("19 none behind heads with like faults", x.differ(4, 5, 64), -1);
         C.due("19 BAD", x.differ(8, 0, 1), -2);
         C.due("19 BAD", x.differ(0, -1, 1), -2);
         C.due("19 BAD", x.differ(7, 0, 65), -2);
