@@ -230,8 +230,7 @@ public final class LateRows {
         }
         if (sheets.isMissing(sheet)) return MISSING;
         if (sheets.sizes[sheet] > MOST_FILMED) return BAD;
-        if (what == 0) return tellingStreams(sheet);
-        return what % 4 == 0 ? tellingNumbers(sheet, stream, k) : leastTelling(sheet, stream, k);
+        return what == 0 ? tellingStreams(sheet) : tellingNumbers(sheet, stream, k, what % 4 == 1);
     }
 
     public int image() {
@@ -361,30 +360,22 @@ public final class LateRows {
         return bits;
     }
 
-    private int tellingNumbers(int sheet, int stream, int k) {
-        int many = 0;
-        for (int v = 0; v <= MOST_TRIED; v++) {
-            if (isToldWith(sheet, stream, k, v)) many++;
-        }
-        return many;
-    }
-
-    private int leastTelling(int sheet, int stream, int k) {
-        for (int v = 0; v <= MOST_TRIED; v++) {
-            if (isToldWith(sheet, stream, k, v)) return v;
-        }
-        return NONE;
-    }
-
-    private boolean isToldWith(int sheet, int stream, int k, int v) {
+    /** How many NUMBERS, put in for that of PART k, make it so; or the least of them. */
+    private int tellingNumbers(int sheet, int stream, int k, boolean least) {
         int p = stream * MOST_PARTS + k;
-        if (!Kinds.allows(texts.kinds[p], v)) return false;
         int own = texts.numbers[p];
-        texts.numbers[p] = v;
-        thought.untell();
-        boolean so = isToldBy(sheet, stream);
+        int many = 0;
+        int first = NONE;
+        for (int v = 0; v <= MOST_TRIED; v++) {
+            if (!Kinds.allows(texts.kinds[p], v)) continue;
+            texts.numbers[p] = v;
+            thought.untell();
+            if (!isToldBy(sheet, stream)) continue;
+            many++;
+            if (first == NONE) first = v;
+        }
         texts.numbers[p] = own;
-        return so;
+        return least ? first : many;
     }
 
     private boolean isToldBy(int sheet, int stream) {
@@ -538,20 +529,20 @@ public final class LateRows {
         }
     }
 
-    /** THE TAPE, and how a TEXT is read from it. */
+    /** THE TAPE, and how a TEXT is read from it: it is split into TOKENS first, then these are read. */
     private static final class Reader {
-        private static final int END = 0, WORD = 1, DIGITS = 2, SIGN = 3, ODD = 4;
+        private static final int END = 0, WORD = 1, DIGITS = 2, SIGN = 3, ODD = 4, BLANK = 5;
         private static final String OPS = "+-*/%", TESTS = "<>=%", SIGNS = "+-*/%<>=,";
 
         final Texts read = new Texts(1);
         int size = 0;
         private final int[] tape = new int[MOST_BYTES];
+        // Of each TOKEN, and of the END behind them: where it begins, its sort, the KIND, number or sign that it means.
+        private final int[] begins = new int[MOST_BYTES + 1];
+        private final int[] sorts = new int[MOST_BYTES + 1];
+        private final int[] meanings = new int[MOST_BYTES + 1];
+        private int next = 0;
         private int fault = NONE;
-        // The TOKEN that is looked at: where it begins and ends, its sort, its number or sign.
-        private int at = 0;
-        private int behind = 0;
-        private int sort = END;
-        private int meaning = 0;
 
         int addByte(int letter) {
             if (size >= MOST_BYTES) return FULL;
@@ -562,9 +553,9 @@ public final class LateRows {
 
         /** Empties THE TAPE: how many PARTS were read, or -100 less the place of the FAULT. */
         int readTape() {
+            splitTape();
+            next = 0;
             fault = NONE;
-            behind = 0;
-            advance();
             int many = 0;
             int open = 1;
             while (many < MOST_PARTS && open > 0 && fault == NONE) {
@@ -572,7 +563,7 @@ public final class LateRows {
                 open += Kinds.rows(read.kinds[many]) - 1;
                 many++;
             }
-            if (open > 0 || sort != END) miss();
+            if (open > 0 || sorts[next] != END) miss();
             size = 0;
             if (fault != NONE) return -100 - fault;
             read.close(0, many);
@@ -580,18 +571,18 @@ public final class LateRows {
         }
 
         private void miss() {
-            if (fault == NONE) fault = at;
+            if (fault == NONE) fault = begins[next];
         }
 
         private void readPart(int k) {
-            int kind = kindOfToken();
+            int kind = sorts[next] == WORD ? meanings[next] : NONE;
             read.clearPart(k, Math.max(kind, NAME));
             if (kind < NAME) {
                 miss();
                 return;
             }
-            if (kind == NAME) read.numbers[k] = tape[at] - 'a';
-            advance();
+            if (kind == NAME) read.numbers[k] = tape[begins[next]] - 'a';
+            next++;
             String shape = Kinds.shape(kind);
             for (int j = 0; j < shape.length() && fault == NONE; j++) readField(k, shape.charAt(j));
         }
@@ -615,7 +606,7 @@ public final class LateRows {
                 read.entries[k * MOST_NUMS + n] = readNum();
                 n++;
                 more = isSign(',');
-                if (more && n < MOST_NUMS) advance();
+                if (more && n < MOST_NUMS) next++;
             }
             read.amounts[k] = n;
             if (more) miss();
@@ -623,89 +614,83 @@ public final class LateRows {
 
         private int readNum() {
             boolean below = isSign('-');
-            if (below) advance();
+            if (below) next++;
             int n = readNumber(0, MOST_NUM);
             return below ? -n : n;
         }
 
         private int readNumber(int least, int most) {
-            if (sort != DIGITS || meaning < least || meaning > most) {
+            int n = meanings[next];
+            if (sorts[next] != DIGITS || n < least || n > most) {
                 miss();
                 return least;
             }
-            int n = meaning;
-            advance();
+            next++;
             return n;
         }
 
         private int readSign(String allowed) {
-            if (sort != SIGN || allowed.indexOf((char) meaning) < 0) {
+            int sign = meanings[next];
+            if (sorts[next] != SIGN || allowed.indexOf((char) sign) < 0) {
                 miss();
                 return 0;
             }
-            int sign = meaning;
-            advance();
+            next++;
             return sign;
         }
 
         private boolean isSign(char sign) {
-            return sort == SIGN && meaning == sign;
+            return sorts[next] == SIGN && meanings[next] == sign;
         }
 
-        private int kindOfToken() {
-            if (sort != WORD) return NONE;
+        private void splitTape() {
+            int tokens = 0;
+            int behind = 0;
+            for (int at = 0; at < size; at = behind) {
+                int sort = sortOf(tape[at]);
+                boolean goesOn = sort == WORD || sort == DIGITS;
+                behind = at + 1;
+                while (goesOn && behind < size && sortOf(tape[behind]) == sort) behind++;
+                if (sort == BLANK) continue;
+                begins[tokens] = at;
+                sorts[tokens] = sort == DIGITS && behind - at > MOST_DIGITS ? ODD : sort;
+                meanings[tokens] = meaningOf(sorts[tokens], at, behind);
+                tokens++;
+            }
+            begins[tokens] = size;
+            sorts[tokens] = END;
+            meanings[tokens] = 0;
+        }
+
+        private static int sortOf(int b) {
+            if (b == 32 || b == 10) return BLANK;
+            if (b >= 'a' && b <= 'z') return WORD;
+            if (b >= '0' && b <= '9') return DIGITS;
+            return SIGNS.indexOf((char) b) >= 0 ? SIGN : ODD;
+        }
+
+        private int meaningOf(int sort, int at, int behind) {
+            if (sort == WORD) return kindOfWord(at, behind);
+            if (sort != DIGITS) return tape[at];
+            int n = 0;
+            for (int j = at; j < behind; j++) n = n * 10 + tape[j] - '0';
+            return n;
+        }
+
+        private int kindOfWord(int at, int behind) {
             if (behind - at == 1) return tape[at] < 'a' + STREAMS ? NAME : NONE;
             for (int kind = NAME + 1; kind < KINDS; kind++) {
-                if (isWord(Kinds.word(kind))) return kind;
+                if (isWord(Kinds.word(kind), at, behind)) return kind;
             }
             return NONE;
         }
 
-        private boolean isWord(String word) {
+        private boolean isWord(String word, int at, int behind) {
             if (word.length() != behind - at) return false;
             for (int j = 0; j < word.length(); j++) {
                 if (tape[at + j] != word.charAt(j)) return false;
             }
             return true;
-        }
-
-        private void advance() {
-            at = behind;
-            while (at < size && (tape[at] == 32 || tape[at] == 10)) at++;
-            behind = at;
-            if (at >= size) sort = END;
-            else if (isLetter(tape[at])) passWord();
-            else if (isDigit(tape[at])) passDigits();
-            else passSign();
-        }
-
-        private void passWord() {
-            sort = WORD;
-            while (behind < size && isLetter(tape[behind])) behind++;
-        }
-
-        private void passDigits() {
-            meaning = 0;
-            while (behind < size && isDigit(tape[behind])) {
-                // A NUMBER that is too long is odd anyway: its value may stay small.
-                if (behind - at < MOST_DIGITS) meaning = meaning * 10 + tape[behind] - '0';
-                behind++;
-            }
-            sort = behind - at <= MOST_DIGITS ? DIGITS : ODD;
-        }
-
-        private void passSign() {
-            meaning = tape[at];
-            behind = at + 1;
-            sort = SIGNS.indexOf((char) meaning) >= 0 ? SIGN : ODD;
-        }
-
-        private static boolean isLetter(int b) {
-            return b >= 'a' && b <= 'z';
-        }
-
-        private static boolean isDigit(int b) {
-            return b >= '0' && b <= '9';
         }
     }
 
@@ -761,8 +746,11 @@ public final class LateRows {
         }
 
         private void writeNum(long v) {
-            if (v < 0) writeSign('-');
             writeBlank();
+            if (v < 0) {
+                writeByte('-');
+                writeBlank();
+            }
             // Digits are taken from below 0, since the least long has no counterpart above.
             long rest = v < 0 ? v : -v;
             long unit = 1;
@@ -965,7 +953,7 @@ public final class LateRows {
                 if (p < 0 || p >= texts.kinds.length) return NO_TEXT;
                 if (texts.kinds[p] != NAME) return p;
                 int stream = texts.numbers[p];
-                if (!isStream(stream) || texts.parts[stream] == 0) return NO_TEXT;
+                if (stream < 0 || stream >= STREAMS || texts.parts[stream] == 0) return NO_TEXT;
                 p = stream * MOST_PARTS;
             }
             return RING;
@@ -1098,13 +1086,15 @@ public final class LateRows {
         }
 
         private int combine(int op, long one, long two) {
+            if ((op == '/' || op == '%') && two == 0) return BY_ZERO;
             switch (op) {
-                case '+': return tellNumber(one + two);
-                case '-': return tellNumber(one - two);
-                case '*': return tellNumber(one * two);
-                case '/': return two == 0 ? BY_ZERO : tellNumber(one / two);
-                default: return two == 0 ? BY_ZERO : tellNumber(one % two);
+                case '+': value = one + two; break;
+                case '-': value = one - two; break;
+                case '*': value = one * two; break;
+                case '/': value = one / two; break;
+                default: value = one % two;
             }
+            return THERE;
         }
 
         /** THERE if it passes, ENDED if it doesn't. */
